@@ -388,6 +388,10 @@ public final class GatedLinks {
             return (spans[hop] << offset) | (spans[hop] >>> ((CYCLE - offset) & (CYCLE - 1)));
         }
 
+        boolean hasSpanAt(int hop, int tick) {
+            return ((spansWith(hop, start) >>> (tick & (CYCLE - 1))) & 1) == 1;
+        }
+
         /** Which link of the path a link is, NONE if it is none of them. */
         int hopOn(int link) {
             for (int hop = 0; hop < path.length; hop++) {
@@ -468,7 +472,7 @@ public final class GatedLinks {
         int ownerOf(int link, int tick) {
             for (int i = 0; i < planned.length; i++) {
                 int hop = planned[i].hopOn(link);
-                if (hop != NONE && (planned[i].spansWith(hop, planned[i].start) >>> (tick & (CYCLE - 1)) & 1) == 1) {
+                if (hop != NONE && planned[i].hasSpanAt(hop, tick)) {
                     return i;
                 }
             }

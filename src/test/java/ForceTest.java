@@ -13,6 +13,7 @@ public final class ForceTest {
         activateKeepsWhatItTook();
         activateWaitsForTheTime();
         activateWaitsForFrames();
+        activateWaitsForEachStream();
         activateWaitsForFramesThatWaited();
         activateSilencesTalkers();
         activateMakesAllNew();
@@ -160,6 +161,27 @@ public final class ForceTest {
         told(y, "anew", 0, 1, 0, 0, 0, NONE, 0);
     }
 
+    /** The frames of each of five streams are waited for. */
+    private static void activateWaitsForEachStream() {
+        for (int slow = 0; slow < 5; slow++) {
+            GatedLinks x = new GatedLinks();
+            x.delay(slow, 9);
+            for (int link = 0; link < 5; link++) {
+                add(x, 8, 1, link);
+            }
+            x.build(5);
+            x.activate();
+            x.tick(25);
+            x.activate();
+            x.tick(8);
+            CHECK.is("stream " + slow + " is on its way till 34", 5, x.streams(3));
+            x.tick(31);
+            CHECK.is("nothing new at 64", 5, x.streams(3));
+            x.tick(1);
+            CHECK.is("in force at 64", NONE, x.streams(3));
+        }
+    }
+
     private static void activateWaitsForFramesThatWaited() {
         GatedLinks x = new GatedLinks();
         x.tick(25);
@@ -181,6 +203,17 @@ public final class ForceTest {
         y.babble(5, 8);
         y.tick(9);
         CHECK.is("busy from 24 to 32", 0, y.streams(2));
+        for (int link = 0; link < 6; link++) {
+            GatedLinks z = new GatedLinks();
+            z.tick(30);
+            z.build(0);
+            z.activate();
+            z.babble(link, 3);
+            z.tick(34);
+            CHECK.is("link " + link + " is busy at 32", NONE, z.streams(2));
+            z.tick(1);
+            CHECK.is("link " + link + " is not at 64", 0, z.streams(2));
+        }
     }
 
     private static void activateSilencesTalkers() {
@@ -457,6 +490,17 @@ public final class ForceTest {
         x.cut(0, false);
         x.cut(1, true);
         told(x, "that from 0", 0, 0, 0, 3, 0, NONE, 0);
+        GatedLinks y = one(new int[] {9, 9}, 8, 1, 0, 1);
+        y.tick(17);
+        y.cut(1, true);
+        y.cut(1, false);
+        told(y, "that from 0 alone is on link 1", 0, 2, 0, 1, 0, NONE, 0);
+        y.tick(13);
+        told(y, "those from 8, 16 and 24 are on their way", 0, 3, 0, 1, 0, NONE, 0);
+        y.tick(1);
+        told(y, "that from 8 is through at 30", 0, 2, 1, 1, 0, 22, 0);
+        y.tick(8);
+        told(y, "that from 16 at 38", 0, 2, 2, 1, 0, 22, 0);
     }
 
     /** Of size 2 with a delay of 3 it begins at 0, is through at 5, and begins on link 1 at 7. */

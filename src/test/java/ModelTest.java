@@ -3,7 +3,7 @@ import java.util.List;
 
 /** All promises at once: long runs of made-up calls, each answered by GatedLinks as by PlainModel. */
 public final class ModelTest {
-    private static final int RUNS = 600;
+    private static final int RUNS = 300;
     private static final int CALLS = 512;
     /** What no call may be given without an exception that is due. */
     private static final int[] WILD = {-1, -2, 5, 6, 8, 9, 10, 31, 32, 33, 61, 200, 201, 20000, 20001,
