@@ -1,6 +1,12 @@
 import java.io.IOException;
+import java.lang.reflect.Constructor;
+import java.lang.reflect.Executable;
+import java.lang.reflect.Field;
+import java.lang.reflect.Method;
+import java.lang.reflect.Modifier;
 import java.nio.file.Files;
 import java.nio.file.Path;
+import java.util.ArrayList;
 import java.util.List;
 import java.util.regex.Matcher;
 import java.util.regex.Pattern;
@@ -15,6 +21,8 @@ public final class LanguageTest {
     private static final String EXCEPTIONS = "IllegalStateException|IllegalArgumentException|IndexOutOfBoundsException"
         + "|ArithmeticException|UnsupportedOperationException|NoSuchElementException|RuntimeException";
     private static final int MOST_LINES = 60;
+    private static final int MOST_FIELDS = 20;
+    private static final int MOST_PARAMETERS = 7;
 
     private static final Check CHECK = new Check("LanguageTest");
 
@@ -30,7 +38,55 @@ public final class LanguageTest {
         exceptions(code);
         classes(code);
         methods(code.split("\n"));
+        List<Class<?>> all = new ArrayList<>(List.of(GatedLinks.class.getDeclaredClasses()));
+        all.add(GatedLinks.class);
+        for (Class<?> one : all) {
+            fields(one);
+            parameters(one);
+        }
         CHECK.end();
+    }
+
+    private static void fields(Class<?> one) {
+        int own = 0;
+        for (Field field : one.getDeclaredFields()) {
+            boolean isStatic = Modifier.isStatic(field.getModifiers());
+            own += isStatic ? 0 : 1;
+            CHECK.yes("rule 5, " + field, !isStatic || isConstant(field));
+            CHECK.yes("rule 3, " + field, isAllowed(field.getType()));
+        }
+        CHECK.yes("rule 11, fields of " + one.getName(), own <= MOST_FIELDS);
+    }
+
+    private static boolean isConstant(Field field) {
+        Class<?> type = field.getType();
+        List<Class<?>> allowed = List.of(int.class, long.class, boolean.class, char.class, String.class, int[].class,
+            long[].class, char[].class, byte[].class);
+        return Modifier.isFinal(field.getModifiers()) && allowed.contains(type);
+    }
+
+    /** One dimension of anything of the class's own, two of numbers alone. */
+    private static boolean isAllowed(Class<?> type) {
+        if (!type.isArray()) {
+            List<Class<?>> library = List.of(String.class, StringBuilder.class, Integer.class, List.class, ArrayList.class);
+            return type.isPrimitive() || library.contains(type) || type.getName().startsWith("GatedLinks");
+        }
+        Class<?> part = type.getComponentType();
+        if (part.isArray()) {
+            return part.getComponentType().isPrimitive();
+        }
+        return part.isPrimitive() || part.getName().startsWith("GatedLinks");
+    }
+
+    private static void parameters(Class<?> one) {
+        List<Executable> calls = new ArrayList<>(List.of(one.getDeclaredMethods()));
+        for (Constructor<?> constructor : one.getDeclaredConstructors()) {
+            calls.add(constructor);
+        }
+        for (Executable call : calls) {
+            CHECK.yes("rule 11, " + call, call.getParameterCount() <= MOST_PARAMETERS);
+            CHECK.no("rule 2, made by the compiler: " + call, call instanceof Method && call.isSynthetic());
+        }
     }
 
     private static void imports(String code) {
