@@ -68,7 +68,8 @@ public final class LanguageTest {
     /** One dimension of anything of the class's own, two of numbers alone. */
     private static boolean isAllowed(Class<?> type) {
         if (!type.isArray()) {
-            List<Class<?>> library = List.of(String.class, StringBuilder.class, Integer.class, List.class, ArrayList.class);
+            List<Class<?>> library =
+                List.of(String.class, StringBuilder.class, Integer.class, List.class, ArrayList.class);
             return type.isPrimitive() || library.contains(type) || type.getName().startsWith("GatedLinks");
         }
         Class<?> part = type.getComponentType();
